@@ -35,6 +35,7 @@ public final class EarlyToken {
 
     private static final int BID_LEAST = 10;
     private static final int BID_MOST = 500;
+    private static final long LOAD_MOST = 9223372036854775807L;
 
     // Columns of a message on its way.
     private static final int KIND = 0;
@@ -149,10 +150,10 @@ public final class EarlyToken {
     }
 
     public boolean cut(int link, boolean is) {
-        if (!ring.has(link) || ring.cuts[link] == is) {
+        if (!ring.has(link) || ring.isCut(link) == is) {
             return false;
         }
-        ring.cuts[link] = is;
+        ring.cuts ^= 1 << link;
         if (is) {
             ring.counts[LOST] += ring.post.removeAll(LINK, link);
         }
@@ -306,7 +307,7 @@ public final class EarlyToken {
             case 0:
                 return ring.delays[link];
             case 1:
-                return ring.cuts[link] ? 1 : 0;
+                return ring.isCut(link) ? 1 : 0;
             case 2:
                 return ring.post.countOf(LINK, link);
             default:
@@ -366,7 +367,7 @@ public final class EarlyToken {
 
     public long load(long times) {
         long all = ring.allLoads();
-        if (times < 0 || (all > 0 && times > Long.MAX_VALUE / all)) {
+        if (times < 0 || (all > 0 && times > LOAD_MOST / all)) {
             return NONE;
         }
         return all * times;
@@ -936,9 +937,10 @@ public final class EarlyToken {
         int n = 3;
         int now;
         int drawn;
+        // A set of links.
+        int cuts;
         final int[] told = new int[TOLD];
         final int[] delays = new int[STATIONS];
-        final boolean[] cuts = new boolean[STATIONS];
         final Station[] stations = new Station[STATIONS];
         final Rows post = new Rows(MESSAGES, MESSAGE_COLUMNS);
         final Lines log = new Lines(LOG_LINES, LOG_COLUMNS);
@@ -960,9 +962,9 @@ public final class EarlyToken {
             n = other.n;
             now = other.now;
             drawn = other.drawn;
+            cuts = other.cuts;
             System.arraycopy(other.told, 0, told, 0, TOLD);
             System.arraycopy(other.delays, 0, delays, 0, STATIONS);
-            System.arraycopy(other.cuts, 0, cuts, 0, STATIONS);
             for (int i = 0; i < STATIONS; i++) {
                 stations[i].become(other.stations[i]);
             }
@@ -982,6 +984,10 @@ public final class EarlyToken {
 
         int before(int i) {
             return i > 0 ? i - 1 : n - 1;
+        }
+
+        boolean isCut(int link) {
+            return (cuts & 1 << link) != 0;
         }
 
         int latency() {
@@ -1186,7 +1192,7 @@ public final class EarlyToken {
 
         void send(int station, int kind, Claim c) {
             counts[SENT]++;
-            if (cuts[station] || post.isFull()) {
+            if (isCut(station) || post.isFull()) {
                 counts[LOST]++;
                 return;
             }
@@ -1469,7 +1475,7 @@ public final class EarlyToken {
             int waited = now - s.line.at(at, CAME);
             int link = s.me;
             for (int i = 0; i < n && link != to; i++) {
-                isLost |= cuts[link];
+                isLost |= isCut(link);
                 waited += delays[link];
                 link = after(link);
             }

@@ -26,6 +26,14 @@ final class Check {
         due(what, got ? 1 : 0, 0);
     }
 
+    /** The i-th line of the log, whole. */
+    void logged(EarlyToken x, int i, int tick, int what, int station, int number) {
+        int[] want = {tick, what, station, number, -1};
+        for (int k = 0; k < want.length; k++) {
+            due("log(" + i + ", " + k + ") at " + x.look(7), x.log(i, k), want[k]);
+        }
+    }
+
     /** The last call of a test's main method. */
     void end() {
         System.out.println(title + ": " + asked + " answers, " + wrong + " of them wrong");
