@@ -784,7 +784,7 @@ public final class EarlyToken {
         int share;
         boolean isOut;
         int kind;
-        // The tick at which it became what it is.
+        // The tick at which it began to claim, or became up.
         int since;
         final Claim goesBy = new Claim();
         final Claim best = new Claim();
@@ -1229,7 +1229,6 @@ public final class EarlyToken {
 
         void beginToBeacon(Station s) {
             s.kind = BEACONING;
-            s.since = now;
             note(LOG_BEACONS, s.me, 0);
             sendBeacon(s);
         }
@@ -1320,7 +1319,6 @@ public final class EarlyToken {
             }
             if (s.kind != REPEATING) {
                 s.kind = REPEATING;
-                s.since = now;
                 s.hold.drop();
                 note(LOG_REPEATS, s.me, c.whose);
             }

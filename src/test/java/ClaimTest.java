@@ -9,6 +9,7 @@ public final class ClaimTest {
         theGreaterNumberIsTaken();
         oldClaimsAreNothing();
         claimsAreSentAgain();
+        whatIsBestAgainIsSentAgainLater();
         anUpStationClaimsWithABetterOne();
         neverAhead();
         inTheOrderInWhichTheyCome();
@@ -16,6 +17,7 @@ public final class ClaimTest {
         whoIsOutSendsOn();
         beacons();
         whoRepeatsCanClaim();
+        aBeaconEndsAHold();
         beaconsPassOneAnother();
         repeatingLosesPatience();
         suspectsBehindThoseOut();
@@ -176,6 +178,31 @@ public final class ClaimTest {
         CHECK.due("0 again, 1 sent it on", x.count(0), 5);
     }
 
+    /** 1 yields to (50, 0, 1), then to (70, 0, 2), which is worse than its own, which then comes back to it at 6. */
+    private static void whatIsBestAgainIsSentAgainLater() {
+        EarlyToken x = new EarlyToken();
+        x.bid(0, 50);
+        x.claim(0);
+        x.claim(1);
+        x.tick(3);
+        CHECK.due("1 yields", x.station(1, 24), 0);
+        x.out(0, true);
+        x.out(0, false);
+        x.bid(0, 70);
+        x.claim(0);
+        x.tick(2);
+        CHECK.due("1 yields to a worse one of the same station", x.station(1, 24), 0);
+        x.tick(1);
+        CHECK.due("its own is better than that", x.station(1, 24), 1);
+        x.cut(0, true);
+        x.cut(1, true);
+        int sent = x.count(0);
+        x.tick(19);
+        CHECK.due("1 sent it 19 ago", x.count(0), sent);
+        x.tick(1);
+        CHECK.due("20 ago", x.count(0), sent + 1);
+    }
+
     private static void anUpStationClaimsWithABetterOne() {
         EarlyToken x = new EarlyToken();
         x.claim(0);
@@ -323,6 +350,30 @@ public final class ClaimTest {
         CHECK.due("it has won", x.station(0, 0), 1);
         x.tick(6);
         CHECK.due("all up", x.look(14), 7);
+    }
+
+    private static void aBeaconEndsAHold() {
+        EarlyToken x = new EarlyToken();
+        x.begin(2);
+        x.bid(0, 500);
+        x.bid(1, 500);
+        x.set(1, 50);
+        x.share(0, 99);
+        x.stream(0, 100, 99);
+        x.claim(0);
+        x.tick(105);
+        x.cut(1, true);
+        x.claim(1);
+        x.tick(50);
+        CHECK.due("1 beacons", x.station(1, 0), 3);
+        CHECK.due("0 holds the token", x.station(0, 7), 1);
+        x.cut(1, false);
+        x.tick(22);
+        CHECK.due("0 heard it", x.station(0, 0), 4);
+        CHECK.due("it holds none", x.station(0, 7), 0);
+        CHECK.due("it sends nothing", x.station(0, 10), 0);
+        CHECK.due("the REST is there", x.station(0, 11), 99);
+        CHECK.due("no token", x.look(13), 0);
     }
 
     private static void whoRepeatsCanClaim() {

@@ -12,6 +12,7 @@ public final class ThoughtTest {
         asked();
         askedIsWhatComes();
         askedInVain();
+        askedTwoThousandTicks();
         nothingStays();
         beyondTheLastTick();
         CHECK.end();
@@ -225,6 +226,39 @@ public final class ThoughtTest {
         CHECK.due("of one that is out", x.asked(2, 0, 1, 1), -1);
         x.set(3, 500);
         CHECK.due("its limit is never less than what is left", x.asked(0, 1, 1, 1), -1);
+    }
+
+    /** No token is there, so that all must wait for a claim first; then longer frames go ahead. */
+    private static void askedTwoThousandTicks() {
+        EarlyToken x = new EarlyToken();
+        x.begin(8);
+        for (int i = 0; i < 8; i++) {
+            x.bid(i, 500);
+        }
+        for (int i = 0; i < 8; i++) {
+            x.delay(i, 20);
+        }
+        x.set(0, 50);
+        x.claim(0);
+        x.tick(300);
+        x.tick(300);
+        x.tick(20);
+        x.lose();
+        for (int i = 0; i < 8; i++) {
+            x.frame(1, 2, 3, 50);
+        }
+        x.frame(2, 3, 3, 50);
+        x.frame(2, 3, 3, 50);
+        int length = 1;
+        int waits = x.asked(2, 3, 1, 1);
+        CHECK.yes("some 2000 ticks and a delay: " + waits, waits > 1990 && waits < 2020);
+        for (; waits < 2020 && length < 50; length++) {
+            int longer = x.asked(2, 3, 1, length + 1);
+            CHECK.due("a tick longer", longer, waits + 1);
+            waits = longer;
+        }
+        CHECK.due("2000 ticks and a delay", waits, 2020);
+        CHECK.due("2001 ticks", x.asked(2, 3, 1, length + 1), -1);
     }
 
     private static void nothingStays() {
