@@ -1142,8 +1142,8 @@ public final class EarlyToken {
         }
 
         /**
-         * Whose claim it is by which all go, if they all became up after a tick. With all tokens lost at that tick, none
-         * can have become up by a claim that won earlier.
+         * Whose claim it is by which all go, if they all became up after a tick. With all tokens lost at that tick,
+         * none can have become up by a claim that won earlier.
          */
         int winnerSince(int tick) {
             Station one = null;

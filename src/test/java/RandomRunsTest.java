@@ -140,7 +140,8 @@ public final class RandomRunsTest {
                 break;
             case 2:
                 int what = odd(0, 5);
-                call("set", what, what == 0 ? odd(1, 50) : what == 1 ? odd(50, 120) : what == 2 ? odd(5, 50) : odd(0, 500));
+                int most = what < 1 || what > 2 ? 500 : what == 1 ? 120 : 50;
+                call("set", what, what == 0 ? odd(1, 50) : odd(what == 1 ? 50 : what == 2 ? 5 : 0, most));
                 break;
             case 3:
             case 4:
