@@ -99,8 +99,6 @@ public final class EarlyToken {
     private static final int LOG_COLUMNS = 4;
     private static final int BOOK_COLUMNS = 5;
 
-    // Earlier than any tick by more than any latency.
-    private static final int NEVER = -100000;
     // Of a frame that was asked about: it is not at its end.
     private static final int WAITING = -2;
 
@@ -570,7 +568,7 @@ public final class EarlyToken {
         }
     }
 
-    /** A station's hold on the token, what it sends meanwhile, and when it came and went last. */
+    /** A station's hold on the token, what it sends meanwhile, when it was taken, and when a token was let go last. */
     private static final class Hold {
         boolean isHeld;
         int left;
@@ -583,8 +581,9 @@ public final class EarlyToken {
         boolean isVoid;
         int restTicks;
         int frameTicks;
-        int cameAt = NEVER;
-        int wentAt = NEVER;
+        int cameAt;
+        // Of one that is up there is always such a tick: who becomes up lets a token go.
+        int wentAt;
 
         void become(Hold other) {
             isHeld = other.isHeld;
@@ -898,6 +897,8 @@ public final class EarlyToken {
             due = now + c.bid;
             late = 0;
             rounds = 1;
+            // It sends the token on at once, and that is letting it go as well.
+            hold.wentAt = now;
             tally[TRIPS] = 0;
             tally[TRIP_TICKS] = 0;
             tally[LONGEST_TRIP] = 0;

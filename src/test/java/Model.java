@@ -277,7 +277,7 @@ final class Model {
                         won.add(c);
                         counts[4]++;
                         log(1, i, c.bid());
-                        send(i, Thing.TOKEN, c);
+                        letGo(i);
                     } else if (c.equals(s.best)) {
                         sendBest(i);
                     } else if (c.betterThan(s.best)
@@ -301,7 +301,7 @@ final class Model {
             if (s.kind == Kind.CLAIMING && c.equals(s.best)) {
                 up(i, c);
                 log(7, i, c.station());
-                send(i, Thing.TOKEN, c);
+                letGo(i);
                 return;
             }
             if (s.kind == Kind.UP && c.equals(s.by)) {
@@ -375,8 +375,13 @@ final class Model {
             }
             book.add(0, new int[] {i, h.came, tick - h.came, h.restTicks, h.frameTicks});
             s.holding = null;
-            s.lastLetGo = tick;
-            send(i, Thing.TOKEN, s.by);
+            letGo(i);
+        }
+
+        /** A token that came, or that one WON, is sent on; "doubled" sends one more, which is no letting go. */
+        void letGo(int i) {
+            stations[i].lastLetGo = tick;
+            send(i, Thing.TOKEN, stations[i].by);
         }
 
         void frameEnds(int i, Frame f) {

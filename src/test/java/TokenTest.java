@@ -10,6 +10,9 @@ public final class TokenTest {
         loseWhatIsSent();
         doubled();
         latencyAgoIsNotDoubled();
+        whoWonHasLetGo();
+        whoBecomesUpHasLetGo();
+        doublingIsNotLettingGo();
         stray();
         restByShares();
         restThatIsMissed();
@@ -237,6 +240,83 @@ public final class TokenTest {
         x.delay(1, 3);
         x.tick(2);
         CHECK.due("LATENCY is 5 by now", x.count(2), 1);
+    }
+
+    /** 0 won at tick 4, and the token comes round at 8. */
+    private static void whoWonHasLetGo() {
+        EarlyToken x = two();
+        x.tick(7);
+        x.delay(1, 1);
+        x.tick(1);
+        CHECK.due("LATENCY is 3 by now", x.count(2), 0);
+        station(x, 0, 6, 2);
+        x = two();
+        x.tick(8);
+        CHECK.due("as long ago as LATENCY", x.count(2), 0);
+        station(x, 0, 6, 2);
+        x = two();
+        x.tick(7);
+        x.delay(0, 3);
+        x.tick(1);
+        CHECK.due("LATENCY is 5 by now", x.count(2), 1);
+        CHECK.logged(x, 0, 8, 4, 0, 0);
+        CHECK.due("no token is there", x.lose(), 0);
+        CHECK.due("none was held", x.look(21), 0);
+        station(x, 0, 6, 1);
+        station(x, 0, 4, 56);
+    }
+
+    /** 1 is up at tick 6, by the first token of two. */
+    private static void whoBecomesUpHasLetGo() {
+        EarlyToken x = two();
+        x.tick(5);
+        x.doubled(0);
+        x.tick(1);
+        CHECK.logged(x, 0, 6, 7, 1, 0);
+        CHECK.due("tokens at 6", x.look(13), 2);
+        x.tick(1);
+        CHECK.due("DOUBLED", x.count(2), 1);
+        CHECK.logged(x, 0, 7, 4, 1, 0);
+        station(x, 1, 6, 1);
+        CHECK.due("tokens at 7", x.lose(), 1);
+        x = two();
+        x.tick(9);
+        x.lose();
+        x.doubled(0);
+        x.tick(2);
+        CHECK.due("1 let it go 5 ago", x.count(2), 0);
+        station(x, 1, 6, 2);
+        x = two();
+        x.tick(8);
+        x.lose();
+        x.doubled(0);
+        x.tick(2);
+        CHECK.due("1 let it go as long ago as LATENCY", x.count(2), 0);
+        station(x, 1, 6, 2);
+        x = two();
+        x.tick(7);
+        x.lose();
+        x.doubled(0);
+        x.tick(2);
+        CHECK.due("1 let it go 3 ago", x.count(2), 1);
+        station(x, 1, 6, 1);
+    }
+
+    private static void doublingIsNotLettingGo() {
+        EarlyToken x = two();
+        x.tick(7);
+        x.doubled(0);
+        station(x, 0, 6, 1);
+        x.tick(1);
+        CHECK.due("0 let it go 4 ago", x.count(2), 0);
+        station(x, 0, 6, 2);
+        x.tick(5);
+        x.doubled(0);
+        station(x, 0, 6, 3);
+        int doubled = x.count(2);
+        x.tick(3);
+        station(x, 0, 6, 4);
+        CHECK.due("the one that came to 1", x.count(2), doubled + 1);
     }
 
     private static void stray() {
