@@ -144,22 +144,40 @@ public final class RecordsTest {
 
     /** Promise 34: all that was told. */
     private static void image() {
-        EarlyToken x = new EarlyToken();
-        tell(x, 1);
-        long told = Sight.sum(x);
-        CHECK.yes("taken", x.image(true));
-        for (int round = 0; round < 3; round++) {
-            tell(x, 2 + round);
-            CHECK.no("other than it was", Sight.sum(x) == told);
-            CHECK.yes("gone back to", x.image(false));
-            CHECK.due("all as it was", Sight.sum(x), told);
+        for (int rounds = 1; rounds <= 3; rounds++) {
+            int many = rounds;
+            CHECK.different("told anew", () -> told(1), () -> {
+                EarlyToken x = told(1);
+                tell(x, 1 + many);
+                return x;
+            });
+            CHECK.same("gone back to, " + rounds + " times", () -> told(1), () -> goneBackTo(many));
         }
-        tell(x, 9);
-        told = Sight.sum(x);
-        x.image(true);
-        tell(x, 10);
-        x.image(false);
-        CHECK.due("the later image", Sight.sum(x), told);
+        CHECK.same("the later image", () -> told(9), () -> {
+            EarlyToken x = goneBackTo(2);
+            x.begin(3);
+            tell(x, 9);
+            CHECK.yes("taken", x.image(true));
+            tell(x, 10);
+            CHECK.yes("gone back to", x.image(false));
+            return x;
+        });
+    }
+
+    private static EarlyToken told(int v) {
+        EarlyToken x = new EarlyToken();
+        tell(x, v);
+        return x;
+    }
+
+    private static EarlyToken goneBackTo(int times) {
+        EarlyToken x = told(1);
+        CHECK.yes("taken", x.image(true));
+        for (int i = 0; i < times; i++) {
+            tell(x, 2 + i);
+            CHECK.yes("gone back to", x.image(false));
+        }
+        return x;
     }
 
     private static void tell(EarlyToken x, int v) {
@@ -184,33 +202,45 @@ public final class RecordsTest {
     /** All goes on from the image as it went on after it was taken. */
     private static void imageOfARunningRing() {
         for (int n = 2; n <= 8; n++) {
-            for (int moment = 0; moment < 12; moment++) {
-                EarlyToken x = new EarlyToken();
-                x.begin(n);
-                for (int i = 0; i < n; i++) {
-                    x.bid(i, 90 + 9 * i);
-                    x.share(i, 3 + i);
-                    x.stream(i, 40 + 11 * i, 5 + 2 * i);
-                }
-                x.set(1, 60);
-                x.state(n);
-                x.claim(n - 1);
-                x.tick(40 + moment);
-                x.storm(20);
-                x.tick(11 + 3 * moment);
-                x.doubled(0);
-                x.cut(1, moment % 3 == 2);
-                x.image(true);
-                goOn(x, moment);
-                long after = Sight.sum(x);
-                x.tick(50);
-                x.begin(2 + moment % 7);
-                x.tick(33);
-                x.image(false);
-                goOn(x, moment);
-                CHECK.due("as before", Sight.sum(x), after);
+            for (int k = 0; k < 12; k++) {
+                int stations = n;
+                int moment = k;
+                CHECK.same("as before", () -> {
+                    EarlyToken x = running(stations, moment);
+                    goOn(x, moment);
+                    return x;
+                }, () -> {
+                    EarlyToken x = running(stations, moment);
+                    x.image(true);
+                    goOn(x, moment);
+                    x.tick(50);
+                    x.begin(2 + moment % 7);
+                    x.tick(33);
+                    x.image(false);
+                    goOn(x, moment);
+                    return x;
+                });
             }
         }
+    }
+
+    private static EarlyToken running(int n, int moment) {
+        EarlyToken x = new EarlyToken();
+        x.begin(n);
+        for (int i = 0; i < n; i++) {
+            x.bid(i, 90 + 9 * i);
+            x.share(i, 3 + i);
+            x.stream(i, 40 + 11 * i, 5 + 2 * i);
+        }
+        x.set(1, 60);
+        x.state(n);
+        x.claim(n - 1);
+        x.tick(40 + moment);
+        x.storm(20);
+        x.tick(11 + 3 * moment);
+        x.doubled(0);
+        x.cut(1, moment % 3 == 2);
+        return x;
     }
 
     private static void goOn(EarlyToken x, int moment) {

@@ -194,20 +194,35 @@ public final class ThoughtTest {
 
     private static void askedIsWhatComes() {
         for (int n = 2; n <= 8; n++) {
-            EarlyToken x = busy(n);
             for (int priority = 1; priority <= 3; priority++) {
-                for (int i = 0; i < n && x.station(i, 12) == 0; i++) {
-                    int to = (i + priority) % n == i ? (i + 1) % n : (i + priority) % n;
-                    int waits = x.asked(i, to, priority, 6);
-                    int delivered = x.station(i, 17);
-                    int together = x.station(i, 19);
-                    x.frame(i, to, priority, 6);
-                    for (int k = 0; k < 300 && x.station(i, 17) == delivered; k++) {
-                        x.tick(1);
+                for (int i = 0; i < n; i++) {
+                    EarlyToken x = busy(n);
+                    if (x.station(i, 12) < 8) {
+                        comesAsAsked(x, i, (i + 1 + priority % (n - 1)) % n, priority);
                     }
-                    CHECK.due("waited", x.station(i, 19) - together, waits);
                 }
             }
+        }
+    }
+
+    private static void comesAsAsked(EarlyToken x, int station, int to, int priority) {
+        int waits = x.asked(station, to, priority, 6);
+        int delays = 0;
+        for (int link = station; link != to; link = (link + 1) % x.look(6)) {
+            delays += x.link(link, 0);
+        }
+        x.frame(station, to, priority, 6);
+        pass(x, waits - delays - 1);
+        int delivered = x.station(station, 17);
+        int together = x.station(station, 19);
+        x.tick(1);
+        CHECK.due("DELIVERED just then", x.station(station, 17), delivered + 1);
+        CHECK.due("waited", x.station(station, 19) - together, waits);
+    }
+
+    private static void pass(EarlyToken x, int ticks) {
+        for (int left = ticks; left > 0; left -= 300) {
+            x.tick(Math.min(300, left));
         }
     }
 
@@ -262,12 +277,9 @@ public final class ThoughtTest {
     }
 
     private static void nothingStays() {
-        EarlyToken x = busy(5);
-        long before = Sight.sum(x);
-        x.found(0);
-        x.would(300, 3);
-        x.asked(0, 1, 1, 1);
-        CHECK.due("all as it was", Sight.sum(x), before);
+        CHECK.unchanged("found", () -> busy(5), x -> x.found(0));
+        CHECK.unchanged("would", () -> busy(5), x -> x.would(300, 3));
+        CHECK.unchanged("asked", () -> busy(5), x -> x.asked(0, 1, 1, 1));
     }
 
     private static void beyondTheLastTick() {

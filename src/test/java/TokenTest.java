@@ -36,53 +36,42 @@ public final class TokenTest {
         return x;
     }
 
-    private static void station(EarlyToken x, int station, int what, int want) {
-        CHECK.due("station(" + station + ", " + what + ") at " + x.look(7), x.station(station, what), want);
-    }
-
-    private static void booked(EarlyToken x, int i, int station, int tick, int since, int rest, int frames) {
-        int[] want = {station, tick, since, rest, frames, -1};
-        for (int what = 0; what < want.length; what++) {
-            CHECK.due("book(" + i + ", " + what + ") at " + x.look(7), x.book(i, what), want[what]);
-        }
-    }
-
     private static void rounds() {
         EarlyToken x = two();
         x.tick(4);
-        station(x, 0, 6, 1);
-        station(x, 0, 4, 60);
+        CHECK.station(x, 0, 6, 1);
+        CHECK.station(x, 0, 4, 60);
         CHECK.due("no mean", x.mean(0), -1);
         x.tick(3);
-        station(x, 0, 4, 57);
+        CHECK.station(x, 0, 4, 57);
         CHECK.due("no line of the book", x.book(0, 0), -1);
         x.tick(1);
-        station(x, 0, 6, 2);
-        station(x, 0, 4, 60);
-        station(x, 0, 21, 0);
-        station(x, 0, 7, 0);
-        booked(x, 0, 0, 8, 0, 0, 0);
+        CHECK.station(x, 0, 6, 2);
+        CHECK.station(x, 0, 4, 60);
+        CHECK.station(x, 0, 21, 0);
+        CHECK.station(x, 0, 7, 0);
+        CHECK.booked(x, 0, 0, 8, 0, 0, 0);
         x.tick(4);
-        station(x, 0, 6, 3);
-        station(x, 0, 21, 1);
-        station(x, 0, 22, 4);
-        station(x, 0, 23, 4);
+        CHECK.station(x, 0, 6, 3);
+        CHECK.station(x, 0, 21, 1);
+        CHECK.station(x, 0, 22, 4);
+        CHECK.station(x, 0, 23, 4);
         CHECK.due("mean(0)", x.mean(0), 4000);
         CHECK.due("mean(2)", x.mean(2), -1);
         CHECK.due("mean(-1)", x.mean(-1), -1);
-        booked(x, 0, 0, 12, 0, 0, 0);
-        booked(x, 1, 1, 10, 0, 0, 0);
+        CHECK.booked(x, 0, 0, 12, 0, 0, 0);
+        CHECK.booked(x, 1, 1, 10, 0, 0, 0);
         x.frame(0, 1, 1, 3);
         x.tick(12);
-        station(x, 0, 21, 3);
-        station(x, 0, 22, 15);
-        station(x, 0, 23, 7);
+        CHECK.station(x, 0, 21, 3);
+        CHECK.station(x, 0, 22, 15);
+        CHECK.station(x, 0, 23, 7);
         CHECK.due("the longest of all", x.look(22), 7);
-        station(x, 1, 23, 7);
+        CHECK.station(x, 1, 23, 7);
         x.frame(0, 1, 1, 1);
         x.tick(12);
-        station(x, 0, 21, 6);
-        station(x, 0, 22, 28);
+        CHECK.station(x, 0, 21, 6);
+        CHECK.station(x, 0, 22, 28);
         CHECK.due("downwards", x.mean(0), 4666);
     }
 
@@ -91,26 +80,26 @@ public final class TokenTest {
         x.tick(10);
         x.lose();
         x.tick(57);
-        station(x, 0, 4, 1);
-        station(x, 0, 5, 0);
+        CHECK.station(x, 0, 4, 1);
+        CHECK.station(x, 0, 5, 0);
         x.tick(1);
-        station(x, 0, 5, 1);
-        station(x, 0, 4, 60);
-        station(x, 0, 0, 1);
+        CHECK.station(x, 0, 5, 1);
+        CHECK.station(x, 0, 4, 60);
+        CHECK.station(x, 0, 0, 1);
         x.tick(59);
-        station(x, 0, 4, 1);
-        station(x, 0, 0, 1);
+        CHECK.station(x, 0, 4, 1);
+        CHECK.station(x, 0, 0, 1);
         x.tick(1);
-        station(x, 0, 0, 2);
-        station(x, 0, 5, 0);
-        station(x, 0, 6, 0);
-        station(x, 0, 4, -1);
+        CHECK.station(x, 0, 0, 2);
+        CHECK.station(x, 0, 5, 0);
+        CHECK.station(x, 0, 6, 0);
+        CHECK.station(x, 0, 4, -1);
         CHECK.logged(x, 0, 128, 0, 0, 60);
         x.tick(2);
-        station(x, 1, 0, 2);
-        station(x, 1, 24, 0);
+        CHECK.station(x, 1, 0, 2);
+        CHECK.station(x, 1, 24, 0);
         x.tick(2);
-        station(x, 0, 0, 1);
+        CHECK.station(x, 0, 0, 1);
         CHECK.logged(x, 0, 132, 1, 0, 60);
     }
 
@@ -121,20 +110,20 @@ public final class TokenTest {
         x.frame(0, 1, 3, 2);
         x.share(0, 5);
         x.tick(63);
-        station(x, 0, 5, 1);
+        CHECK.station(x, 0, 5, 1);
         int due = x.station(0, 4);
         x.doubled(1);
         x.tick(2);
-        station(x, 0, 6, 4);
-        station(x, 0, 5, 0);
-        station(x, 0, 4, due - 2);
-        station(x, 0, 12, 1);
-        booked(x, 0, 0, 77, 0, 0, 0);
+        CHECK.station(x, 0, 6, 4);
+        CHECK.station(x, 0, 5, 0);
+        CHECK.station(x, 0, 4, due - 2);
+        CHECK.station(x, 0, 12, 1);
+        CHECK.booked(x, 0, 0, 77, 0, 0, 0);
         x.tick(4);
-        station(x, 0, 7, 1);
-        station(x, 0, 8, due - 6);
-        station(x, 0, 10, 2);
-        station(x, 0, 4, 60);
+        CHECK.station(x, 0, 7, 1);
+        CHECK.station(x, 0, 8, due - 6);
+        CHECK.station(x, 0, 10, 2);
+        CHECK.station(x, 0, 4, 60);
     }
 
     /** Promise 14. */
@@ -164,24 +153,24 @@ public final class TokenTest {
         x.tick(11);
         x.frame(0, 1, 1, 5);
         x.tick(3);
-        station(x, 0, 7, 1);
-        station(x, 0, 10, 3);
+        CHECK.station(x, 0, 7, 1);
+        CHECK.station(x, 0, 10, 3);
         CHECK.due("TICKS in which something was sent", x.count(7), 2);
         CHECK.due("the held one", x.lose(), 1);
-        station(x, 0, 7, 0);
-        station(x, 0, 8, 0);
-        station(x, 0, 9, 0);
-        station(x, 0, 10, 0);
-        station(x, 0, 12, 1);
+        CHECK.station(x, 0, 7, 0);
+        CHECK.station(x, 0, 8, 0);
+        CHECK.station(x, 0, 9, 0);
+        CHECK.station(x, 0, 10, 0);
+        CHECK.station(x, 0, 12, 1);
         x.tick(10);
         CHECK.due("not sent", x.count(7), 2);
-        station(x, 0, 17, 0);
+        CHECK.station(x, 0, 17, 0);
         x.doubled(1);
         x.tick(2);
-        station(x, 0, 10, 5);
+        CHECK.station(x, 0, 10, 5);
         x.tick(5);
-        station(x, 0, 17, 1);
-        booked(x, 0, 0, 26, 5, 0, 5);
+        CHECK.station(x, 0, 17, 1);
+        CHECK.booked(x, 0, 0, 26, 5, 0, 5);
     }
 
     /** Promise 15. */
@@ -210,7 +199,7 @@ public final class TokenTest {
         x.tick(3);
         x.doubled(1);
         x.tick(2);
-        station(x, 0, 7, 1);
+        CHECK.station(x, 0, 7, 1);
         CHECK.due("it holds one", x.count(2), 1);
         CHECK.logged(x, 0, 16, 4, 0, 0);
         x.cut(1, true);
@@ -249,11 +238,11 @@ public final class TokenTest {
         x.delay(1, 1);
         x.tick(1);
         CHECK.due("LATENCY is 3 by now", x.count(2), 0);
-        station(x, 0, 6, 2);
+        CHECK.station(x, 0, 6, 2);
         x = two();
         x.tick(8);
         CHECK.due("as long ago as LATENCY", x.count(2), 0);
-        station(x, 0, 6, 2);
+        CHECK.station(x, 0, 6, 2);
         x = two();
         x.tick(7);
         x.delay(0, 3);
@@ -262,8 +251,8 @@ public final class TokenTest {
         CHECK.logged(x, 0, 8, 4, 0, 0);
         CHECK.due("no token is there", x.lose(), 0);
         CHECK.due("none was held", x.look(21), 0);
-        station(x, 0, 6, 1);
-        station(x, 0, 4, 56);
+        CHECK.station(x, 0, 6, 1);
+        CHECK.station(x, 0, 4, 56);
     }
 
     /** 1 is up at tick 6, by the first token of two. */
@@ -277,7 +266,7 @@ public final class TokenTest {
         x.tick(1);
         CHECK.due("DOUBLED", x.count(2), 1);
         CHECK.logged(x, 0, 7, 4, 1, 0);
-        station(x, 1, 6, 1);
+        CHECK.station(x, 1, 6, 1);
         CHECK.due("tokens at 7", x.lose(), 1);
         x = two();
         x.tick(9);
@@ -285,37 +274,37 @@ public final class TokenTest {
         x.doubled(0);
         x.tick(2);
         CHECK.due("1 let it go 5 ago", x.count(2), 0);
-        station(x, 1, 6, 2);
+        CHECK.station(x, 1, 6, 2);
         x = two();
         x.tick(8);
         x.lose();
         x.doubled(0);
         x.tick(2);
         CHECK.due("1 let it go as long ago as LATENCY", x.count(2), 0);
-        station(x, 1, 6, 2);
+        CHECK.station(x, 1, 6, 2);
         x = two();
         x.tick(7);
         x.lose();
         x.doubled(0);
         x.tick(2);
         CHECK.due("1 let it go 3 ago", x.count(2), 1);
-        station(x, 1, 6, 1);
+        CHECK.station(x, 1, 6, 1);
     }
 
     private static void doublingIsNotLettingGo() {
         EarlyToken x = two();
         x.tick(7);
         x.doubled(0);
-        station(x, 0, 6, 1);
+        CHECK.station(x, 0, 6, 1);
         x.tick(1);
         CHECK.due("0 let it go 4 ago", x.count(2), 0);
-        station(x, 0, 6, 2);
+        CHECK.station(x, 0, 6, 2);
         x.tick(5);
         x.doubled(0);
-        station(x, 0, 6, 3);
+        CHECK.station(x, 0, 6, 3);
         int doubled = x.count(2);
         x.tick(3);
-        station(x, 0, 6, 4);
+        CHECK.station(x, 0, 6, 4);
         CHECK.due("the one that came to 1", x.count(2), doubled + 1);
     }
 
@@ -335,7 +324,7 @@ public final class TokenTest {
         x.claim(1);
         x.tick(1);
         CHECK.due("it came to one that claims with its own", x.count(3), 1);
-        station(x, 1, 0, 2);
+        CHECK.station(x, 1, 0, 2);
         x = new EarlyToken();
         x.claim(0);
         x.tick(17);
@@ -350,41 +339,41 @@ public final class TokenTest {
         x.share(0, 3);
         x.stream(0, 20, 7);
         x.tick(19);
-        station(x, 0, 11, 0);
+        CHECK.station(x, 0, 11, 0);
         x.tick(1);
-        station(x, 0, 11, 7);
-        station(x, 0, 7, 1);
-        station(x, 0, 8, 56);
-        station(x, 0, 9, 0);
-        station(x, 0, 10, 3);
+        CHECK.station(x, 0, 11, 7);
+        CHECK.station(x, 0, 7, 1);
+        CHECK.station(x, 0, 8, 56);
+        CHECK.station(x, 0, 9, 0);
+        CHECK.station(x, 0, 10, 3);
         x.tick(2);
-        station(x, 0, 10, 1);
-        station(x, 0, 11, 7);
-        station(x, 0, 8, 56);
+        CHECK.station(x, 0, 10, 1);
+        CHECK.station(x, 0, 11, 7);
+        CHECK.station(x, 0, 8, 56);
         x.share(0, 9);
         x.share(0, 3);
         x.tick(1);
-        station(x, 0, 11, 4);
-        station(x, 0, 7, 0);
-        booked(x, 0, 0, 20, 3, 3, 0);
+        CHECK.station(x, 0, 11, 4);
+        CHECK.station(x, 0, 7, 0);
+        CHECK.booked(x, 0, 0, 20, 3, 3, 0);
         x.tick(4);
-        station(x, 0, 10, 3);
+        CHECK.station(x, 0, 10, 3);
         x.tick(7);
-        station(x, 0, 11, 1);
-        station(x, 0, 10, 1);
-        station(x, 0, 9, 2);
-        station(x, 0, 16, 0);
+        CHECK.station(x, 0, 11, 1);
+        CHECK.station(x, 0, 10, 1);
+        CHECK.station(x, 0, 9, 2);
+        CHECK.station(x, 0, 16, 0);
         x.tick(1);
-        station(x, 0, 11, 0);
-        station(x, 0, 16, 1);
-        booked(x, 0, 0, 34, 1, 1, 0);
+        CHECK.station(x, 0, 11, 0);
+        CHECK.station(x, 0, 16, 1);
+        CHECK.booked(x, 0, 0, 34, 1, 1, 0);
         CHECK.due("TICKS in which something was sent", x.count(7), 7);
         x.tick(25);
-        station(x, 0, 16, 2);
-        station(x, 0, 15, 0);
-        station(x, 0, 11, 7);
+        CHECK.station(x, 0, 16, 2);
+        CHECK.station(x, 0, 15, 0);
+        CHECK.station(x, 0, 11, 7);
         x.tick(40);
-        station(x, 0, 16, 4);
+        CHECK.station(x, 0, 16, 4);
     }
 
     private static void restThatIsMissed() {
@@ -392,29 +381,29 @@ public final class TokenTest {
         x.share(0, 30);
         x.stream(0, 20, 30);
         x.tick(39);
-        station(x, 0, 10, 11);
-        station(x, 0, 15, 0);
+        CHECK.station(x, 0, 10, 11);
+        CHECK.station(x, 0, 15, 0);
         x.tick(1);
-        station(x, 0, 15, 1);
-        station(x, 0, 10, 10);
-        station(x, 0, 11, 30);
+        CHECK.station(x, 0, 15, 1);
+        CHECK.station(x, 0, 10, 10);
+        CHECK.station(x, 0, 11, 30);
         CHECK.logged(x, 0, 40, 6, 0, 30);
         x.tick(10);
-        station(x, 0, 11, 30);
-        station(x, 0, 16, 0);
-        booked(x, 0, 0, 20, 30, 30, 0);
+        CHECK.station(x, 0, 11, 30);
+        CHECK.station(x, 0, 16, 0);
+        CHECK.booked(x, 0, 0, 20, 30, 30, 0);
         x.stream(0, 40, 30);
         x.tick(30);
-        station(x, 0, 15, 1);
-        station(x, 0, 11, 30);
+        CHECK.station(x, 0, 15, 1);
+        CHECK.station(x, 0, 11, 30);
         x.tick(35);
-        station(x, 0, 16, 1);
+        CHECK.station(x, 0, 16, 1);
         x = two();
         x.share(0, 3);
         x.stream(0, 20, 13);
         x.tick(40);
         CHECK.logged(x, 0, 40, 6, 0, 4);
-        station(x, 0, 11, 13);
+        CHECK.station(x, 0, 11, 13);
     }
 
     private static void restToldAnew() {
@@ -422,29 +411,29 @@ public final class TokenTest {
         x.share(0, 10);
         x.stream(0, 20, 10);
         x.tick(25);
-        station(x, 0, 10, 5);
+        CHECK.station(x, 0, 10, 5);
         x.stream(0, 26, 8);
-        station(x, 0, 11, 0);
-        station(x, 0, 10, 5);
+        CHECK.station(x, 0, 11, 0);
+        CHECK.station(x, 0, 10, 5);
         x.tick(1);
-        station(x, 0, 11, 8);
-        station(x, 0, 15, 0);
+        CHECK.station(x, 0, 11, 8);
+        CHECK.station(x, 0, 15, 0);
         x.tick(4);
-        station(x, 0, 11, 8);
-        station(x, 0, 16, 0);
-        station(x, 0, 7, 0);
-        booked(x, 0, 0, 20, 10, 10, 0);
+        CHECK.station(x, 0, 11, 8);
+        CHECK.station(x, 0, 16, 0);
+        CHECK.station(x, 0, 7, 0);
+        CHECK.booked(x, 0, 0, 20, 10, 10, 0);
         x.tick(12);
-        station(x, 0, 11, 0);
-        station(x, 0, 16, 1);
+        CHECK.station(x, 0, 11, 0);
+        CHECK.station(x, 0, 16, 1);
         x = two();
         x.share(0, 10);
         x.stream(0, 20, 10);
         x.tick(25);
         x.stream(0, 0, 0);
         x.tick(5);
-        station(x, 0, 16, 0);
-        station(x, 0, 11, 0);
+        CHECK.station(x, 0, 16, 0);
+        CHECK.station(x, 0, 11, 0);
     }
 
     private static void framesByPriority() {
@@ -456,31 +445,31 @@ public final class TokenTest {
         x.frame(0, 1, 3, 2);
         x.frame(0, 1, 2, 3);
         x.tick(3);
-        station(x, 0, 8, 56);
-        station(x, 0, 10, 5);
-        station(x, 0, 12, 4);
+        CHECK.station(x, 0, 8, 56);
+        CHECK.station(x, 0, 10, 5);
+        CHECK.station(x, 0, 12, 4);
         x.tick(5);
-        station(x, 0, 8, 51);
-        station(x, 0, 12, 3);
-        station(x, 0, 17, 1);
-        station(x, 0, 19, 10);
-        station(x, 0, 10, 3);
+        CHECK.station(x, 0, 8, 51);
+        CHECK.station(x, 0, 12, 3);
+        CHECK.station(x, 0, 17, 1);
+        CHECK.station(x, 0, 19, 10);
+        CHECK.station(x, 0, 10, 3);
         CHECK.due("it was the second", x.queued(0, 1, 2), 2);
         x.tick(3);
-        station(x, 0, 17, 2);
-        station(x, 0, 19, 23);
-        station(x, 0, 20, 13);
-        station(x, 0, 10, 4);
+        CHECK.station(x, 0, 17, 2);
+        CHECK.station(x, 0, 19, 23);
+        CHECK.station(x, 0, 20, 13);
+        CHECK.station(x, 0, 10, 4);
         x.tick(4);
-        station(x, 0, 17, 3);
-        station(x, 0, 19, 40);
-        station(x, 0, 20, 17);
-        station(x, 0, 7, 0);
-        station(x, 0, 12, 1);
+        CHECK.station(x, 0, 17, 3);
+        CHECK.station(x, 0, 19, 40);
+        CHECK.station(x, 0, 20, 17);
+        CHECK.station(x, 0, 7, 0);
+        CHECK.station(x, 0, 12, 1);
         CHECK.due("the third is left", x.queued(0, 0, 1), 3);
         CHECK.due("TICKS in which something was sent", x.count(7), 12);
-        booked(x, 0, 0, 12, 12, 0, 12);
-        station(x, 0, 18, 0);
+        CHECK.booked(x, 0, 0, 12, 12, 0, 12);
+        CHECK.station(x, 0, 18, 0);
     }
 
     private static void framesByLimit() {
@@ -490,11 +479,11 @@ public final class TokenTest {
             x.frame(0, 1, priority, 2);
             x.set(2 + priority, 56);
             x.tick(3);
-            station(x, 0, 12, 1);
-            station(x, 0, 7, 0);
+            CHECK.station(x, 0, 12, 1);
+            CHECK.station(x, 0, 7, 0);
             x.set(2 + priority, 55);
             x.tick(4);
-            station(x, 0, 10, 2);
+            CHECK.station(x, 0, 10, 2);
         }
     }
 
@@ -504,21 +493,21 @@ public final class TokenTest {
         x.stream(0, 20, 2);
         x.share(0, 2);
         x.tick(8);
-        station(x, 0, 6, 2);
-        station(x, 0, 7, 0);
+        CHECK.station(x, 0, 6, 2);
+        CHECK.station(x, 0, 7, 0);
         x.tick(4);
-        station(x, 0, 6, 3);
-        station(x, 0, 10, 2);
+        CHECK.station(x, 0, 6, 3);
+        CHECK.station(x, 0, 10, 2);
         x.tick(2);
-        station(x, 0, 19, 16);
+        CHECK.station(x, 0, 19, 16);
         x = new EarlyToken();
         x.begin(8);
         x.share(0, 2);
         x.stream(0, 20, 2);
         x.claim(0);
         x.tick(32);
-        station(x, 0, 6, 2);
-        station(x, 0, 10, 2);
+        CHECK.station(x, 0, 6, 2);
+        CHECK.station(x, 0, 10, 2);
     }
 
     private static void framesEndEarliness() {
@@ -532,23 +521,23 @@ public final class TokenTest {
             x.frame(0, 1, 1, 7);
         }
         x.tick(3);
-        station(x, 0, 8, 16);
+        CHECK.station(x, 0, 8, 16);
         x.tick(7);
-        station(x, 0, 8, 9);
-        station(x, 0, 5, 0);
+        CHECK.station(x, 0, 8, 9);
+        CHECK.station(x, 0, 5, 0);
         x.tick(7);
-        station(x, 0, 8, 2);
-        station(x, 0, 10, 7);
+        CHECK.station(x, 0, 8, 2);
+        CHECK.station(x, 0, 10, 7);
         x.tick(2);
-        station(x, 0, 8, 0);
-        station(x, 0, 10, 5);
+        CHECK.station(x, 0, 8, 0);
+        CHECK.station(x, 0, 10, 5);
         x.tick(4);
-        station(x, 0, 8, 0);
-        station(x, 0, 5, 1);
+        CHECK.station(x, 0, 8, 0);
+        CHECK.station(x, 0, 5, 1);
         x.tick(1);
-        station(x, 0, 7, 0);
-        station(x, 0, 12, 1);
-        booked(x, 0, 0, 12, 21, 0, 21);
+        CHECK.station(x, 0, 7, 0);
+        CHECK.station(x, 0, 12, 1);
+        CHECK.booked(x, 0, 0, 12, 21, 0, 21);
     }
 
     private static void framesThatAreLost() {
@@ -561,22 +550,22 @@ public final class TokenTest {
         x.frame(1, 0, 3, 5);
         x.frame(1, 2, 2, 2);
         x.tick(4);
-        station(x, 1, 10, 2);
+        CHECK.station(x, 1, 10, 2);
         x.cut(0, true);
         x.tick(2);
-        station(x, 1, 17, 1);
-        station(x, 1, 19, 6 + 3 + 2 + 2);
+        CHECK.station(x, 1, 17, 1);
+        CHECK.station(x, 1, 19, 6 + 3 + 2 + 2);
         x.cut(2, true);
         x.frame(1, 3, 2, 1);
         x.tick(2);
-        station(x, 1, 17, 2);
-        station(x, 1, 19, 13 + 8 + 3);
-        station(x, 1, 20, 13);
-        station(x, 1, 18, 0);
+        CHECK.station(x, 1, 17, 2);
+        CHECK.station(x, 1, 19, 13 + 8 + 3);
+        CHECK.station(x, 1, 20, 13);
+        CHECK.station(x, 1, 18, 0);
         x.tick(1);
-        station(x, 1, 17, 2);
-        station(x, 1, 18, 1);
-        station(x, 1, 12, 0);
+        CHECK.station(x, 1, 17, 2);
+        CHECK.station(x, 1, 18, 1);
+        CHECK.station(x, 1, 12, 0);
         x.begin(4);
         x.bid(1, 50);
         x.claim(1);
@@ -588,9 +577,9 @@ public final class TokenTest {
         x.tick(6);
         x.cut(3, true);
         x.tick(6);
-        station(x, 1, 18, 2);
-        station(x, 1, 17, 1);
-        station(x, 1, 12, 0);
+        CHECK.station(x, 1, 18, 2);
+        CHECK.station(x, 1, 17, 1);
+        CHECK.station(x, 1, 12, 0);
         CHECK.due("no message is lost by that", x.count(1), 0);
     }
 
@@ -599,17 +588,17 @@ public final class TokenTest {
         x.share(0, 4);
         x.stream(0, 20, 4);
         x.tick(22);
-        station(x, 0, 10, 2);
+        CHECK.station(x, 0, 10, 2);
         int lines = x.look(21);
         CHECK.yes("claim(0)", x.claim(0));
-        station(x, 0, 7, 0);
-        station(x, 0, 10, 0);
-        station(x, 0, 11, 4);
+        CHECK.station(x, 0, 7, 0);
+        CHECK.station(x, 0, 10, 0);
+        CHECK.station(x, 0, 11, 4);
         CHECK.due("no token", x.look(13), 0);
         CHECK.due("no line of the book", x.look(21), lines);
         x.tick(10);
-        station(x, 0, 16, 0);
-        station(x, 0, 11, 4);
+        CHECK.station(x, 0, 16, 0);
+        CHECK.station(x, 0, 11, 4);
     }
 
     private static void goingOutDropsTheToken() {
@@ -619,35 +608,35 @@ public final class TokenTest {
         x.frame(0, 1, 1, 5);
         x.stream(0, 20, 3);
         x.tick(5);
-        station(x, 0, 7, 1);
-        station(x, 0, 10, 3);
+        CHECK.station(x, 0, 7, 1);
+        CHECK.station(x, 0, 10, 3);
         x.out(0, true);
-        station(x, 0, 0, 0);
-        station(x, 0, 7, 0);
-        station(x, 0, 12, 1);
-        station(x, 0, 11, 3);
+        CHECK.station(x, 0, 0, 0);
+        CHECK.station(x, 0, 7, 0);
+        CHECK.station(x, 0, 12, 1);
+        CHECK.station(x, 0, 11, 3);
         CHECK.due("no token", x.look(13), 0);
         x.tick(30);
-        station(x, 0, 15, 0);
-        station(x, 0, 11, 3);
+        CHECK.station(x, 0, 15, 0);
+        CHECK.station(x, 0, 11, 3);
         CHECK.due("a frame into the line of one that is out", x.frame(0, 1, 1, 1), 2);
     }
 
     private static void tripsStartAnew() {
         EarlyToken x = two();
         x.tick(30);
-        station(x, 0, 21, 5);
+        CHECK.station(x, 0, 21, 5);
         x.bid(1, 50);
         x.claim(1);
         x.tick(10);
-        station(x, 0, 0, 1);
-        station(x, 0, 24, 1);
-        station(x, 0, 21, 0);
-        station(x, 0, 22, 0);
-        station(x, 0, 23, 0);
+        CHECK.station(x, 0, 0, 1);
+        CHECK.station(x, 0, 24, 1);
+        CHECK.station(x, 0, 21, 0);
+        CHECK.station(x, 0, 22, 0);
+        CHECK.station(x, 0, 23, 0);
         CHECK.due("no mean", x.mean(0), -1);
         x.tick(4);
-        station(x, 0, 21, 1);
+        CHECK.station(x, 0, 21, 1);
         CHECK.due("mean", x.mean(0), 4000);
     }
 }
