@@ -50,6 +50,9 @@ public final class EdgesOfClaimsTest {
         messageThatIs();
         linkThatIs();
         stationThatIs();
+        whoIsNotUp();
+        outOrNot();
+        whomItFollows();
         suspects();
         suspectsRoundTheRing();
         ticksOneToThreeHundred();
@@ -941,6 +944,96 @@ public final class EdgesOfClaimsTest {
             CHECK.due("another what", x.station(4, what), -1);
         }
         CHECK.due("the last what", x.station(4, 26), 0);
+    }
+
+    /** "3 TARGET (NONE: not UP), 4 DUE less TICK (NONE likewise), 5 LATE, 6 ROUNDS (both 0 if not UP)" */
+    private static void whoIsNotUp() {
+        EarlyToken x = ring(2);
+        for (int kind = 0; kind < 2; kind++) {
+            none(x, 0);
+            x.claim(0);
+        }
+        x.tick(20);
+        x.lose();
+        x.tick(60);
+        CHECK.station(x, 0, 3, 60);
+        CHECK.station(x, 0, 4, 60);
+        CHECK.station(x, 0, 5, 1);
+        CHECK.station(x, 0, 6, 5);
+        x.claim(0);
+        none(x, 0);
+        EarlyToken y = lateOfThree();
+        CHECK.station(y, 1, 5, 1);
+        CHECK.station(y, 1, 6, 2);
+        y.out(1, true);
+        none(y, 1);
+        y.out(1, false);
+        none(y, 1);
+        y = lateOfThree();
+        y.cut(2, true);
+        y.claim(0);
+        y.tick(49);
+        CHECK.due("claiming", y.look(15), 7);
+        none(y, 1);
+        y.tick(5);
+        kinds("beacons, repeat", y, 3, 4, 4);
+        none(y, 0);
+        none(y, 1);
+    }
+
+    /** All are UP and LATE, and no token is there. */
+    private static EarlyToken lateOfThree() {
+        EarlyToken x = ring(3);
+        x.set(1, 50);
+        x.claim(0);
+        x.tick(16);
+        x.lose();
+        x.tick(64);
+        return x;
+    }
+
+    private static void none(EarlyToken x, int station) {
+        CHECK.station(x, station, 3, -1);
+        CHECK.station(x, station, 4, -1);
+        CHECK.station(x, station, 5, 0);
+        CHECK.station(x, station, 6, 0);
+    }
+
+    /** "26 whether it is OUT (1, 0)" */
+    private static void outOrNot() {
+        EarlyToken x = ring(3);
+        x.out(1, true);
+        CHECK.station(x, 0, 26, 0);
+        CHECK.station(x, 1, 26, 1);
+        CHECK.station(x, 2, 26, 0);
+        x.out(1, false);
+        CHECK.station(x, 1, 26, 0);
+    }
+
+    /** "24 whose CLAIM it goes by (UP), is BEST (CLAIMING), or whose BEACON it HEARD (REPEATING; NONE else)" */
+    private static void whomItFollows() {
+        EarlyToken x = ring(3);
+        CHECK.station(x, 1, 24, -1);
+        x.set(1, 50);
+        x.bid(2, 70);
+        x.cut(0, true);
+        x.claim(1);
+        x.tick(2);
+        CHECK.station(x, 1, 24, 1);
+        CHECK.station(x, 2, 24, 1);
+        x.tick(2);
+        CHECK.station(x, 0, 24, 0);
+        x.tick(50);
+        kinds("beacons, repeat", x, 4, 3, 4);
+        CHECK.station(x, 1, 24, -1);
+        CHECK.station(x, 2, 24, 1);
+        CHECK.station(x, 0, 24, 1);
+        x.cut(0, false);
+        x.tick(40);
+        kinds("all up", x, 1, 1, 1);
+        CHECK.station(x, 2, 24, x.station(0, 24));
+        x.out(2, true);
+        CHECK.station(x, 2, 24, -1);
     }
 
     /** "The LINKS (a set) that lead to a STATION that is BEACONING" */

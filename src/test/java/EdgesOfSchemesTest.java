@@ -30,6 +30,7 @@ public final class EdgesOfSchemesTest {
         leastIsTenAtLeast();
         leastIsInsteadOfWhatFloorIs();
         leastFiveHundredAtMost();
+        leastIsByScheme2();
         leastOfNone();
         loadTimes();
         loadNotBeyond();
@@ -373,6 +374,20 @@ public final class EdgesOfSchemesTest {
         CHECK.due("289 by 499", x.least(), 499);
         x.stream(2, 999, 92);
         CHECK.due("290 would be for 500, but 999 by 500 is 1", x.least(), -1);
+    }
+
+    /** "by which SCHEME 2 FITS": by 30 it does, and neither of the others would. */
+    private static void leastIsByScheme2() {
+        EarlyToken x = new EarlyToken();
+        x.stream(0, 200, 20);
+        x.stream(1, 60, 10);
+        CHECK.due("4 and 10 and 16 are 30", x.least(), 30);
+        x.bid(0, 30);
+        CHECK.due("4 each", x.fits(0), 0);
+        CHECK.due("5 and 8", x.fits(1), 0);
+        CHECK.due("4 and 10", x.fits(2), 1);
+        x.bid(2, 29);
+        CHECK.due("one less", x.fits(2), 0);
     }
 
     /** "LEAST. NONE if there is none." */
